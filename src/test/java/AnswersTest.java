@@ -136,6 +136,12 @@ public final class AnswersTest {
         Check.book(owed, "6 50;");
         check.due("NIGHT 13 tells the rates apart, but two by two", owed.count(0) % 7, 6);
         check.due("never worse than by 50, 51, 52, .. 60", owed.count(1) <= 2 ? 1 : 0, 1);
+        Check.law(owed, "night*999");
+        Check.book(owed, "");
+        check.due("the utmost strokes", owed.count(1), 4200);
+        check.due("the first", owed.count(0), 0);
+        Check.book(owed, "0 0;");
+        check.due("999 strokes are counted, too", owed.count(1), 4200);
         check.bad("count 2", () -> owed.count(2));
         check.bad("count -1", () -> owed.count(-1));
     }
@@ -231,6 +237,7 @@ public final class AnswersTest {
         check.due("bears", bell.bears(0, 0), 5);
         check.due("bears", bell.bears(2, 0), 0);
         check.due("bears", bell.bears(2, 2), 3);
+        check.due("by 999", bell.sleepers(999), 0);
         check.bad("sleepers 1000", () -> bell.sleepers(1000));
         check.bad("sleepers -1", () -> bell.sleepers(-1));
         check.none("bears: MONK 3", () -> bell.bears(3, 0));
@@ -415,6 +422,24 @@ public final class AnswersTest {
         Check.work(bell, "wax;wax;");
         check.due("none is left", bell.restore(), -1);
         check.due("-1 leaves it", bell.told(11), 1);
+        OwedBell other = Check.told("owe 90;chest 40;");
+        Check.work(other, "pay 1;");
+        Check.work(other, "pay 2;");
+        Check.work(other, "pay 3;");
+        other.image();
+        other.undo();
+        other.undo();
+        other.undo();
+        Check.work(other, "pay 10;");
+        Check.work(other, "night;");
+        Check.work(other, "night;");
+        check.due("restored", other.restore(), 0);
+        check.due("what was ahead of the third WORK", other.undo(), 2);
+        check.due("OWED", other.told(0), 87);
+        check.due("what was ahead of the second", other.undo(), 1);
+        check.due("OWED", other.told(0), 89);
+        check.due("what was ahead of the first", other.undo(), 0);
+        check.due("OWED", other.told(0), 90);
         check.due("an IMAGE behind them", bell.image(), 1);
         check.due("a new ABBEY", Check.abbey(bell, ""), 0);
         check.due("takes it away", bell.restore(), -1);

@@ -6,6 +6,8 @@ public final class NightsTest {
         paying();
         alms();
         receipts();
+        theLeastReceipt();
+        noStormInWork();
         strokesWithAReceipt();
         waxAndWaking();
         swapping();
@@ -93,6 +95,15 @@ public final class NightsTest {
         check.due("NIGHTS still", bell.told(7), 6);
     }
 
+    private static void theLeastReceipt() {
+        OwedBell bell = Check.told("owe 100;", "asks");
+        check.due("of 1, twice", Check.work(bell, "receipt 1;receipt 1;"), 1);
+        check.due("strokes", bell.strokes(), 99);
+        Check.work(bell, "again 7 [night;];");
+        check.due("came down", bell.told(12), 1);
+        check.due("strokes", bell.strokes(), 101);
+    }
+
     private static void strokesWithAReceipt() {
         OwedBell bell = Check.told("owe 100;", "asks");
         Check.work(bell, "receipt 999;");
@@ -142,6 +153,21 @@ public final class NightsTest {
         check.due("CELL of 0", bell.monk(0, 1), 0);
         check.due("1 wakes no more", bell.monk(1, 3), 0);
         check.due("0 woke", bell.monk(0, 3), 1);
+    }
+
+    private static void noStormInWork() {
+        OwedBell bell = Check.told("chest 99;cell 0;monk 5;", "storm*90");
+        check.due("strokes", bell.strokes(), 0);
+        check.due("wakes", bell.monk(0, 2), 0);
+        check.due("ahead", bell.ahead(5, 0), 0);
+        check.due("loudest", bell.loudest(1), 0);
+        check.due("hush", bell.hush(0), 0);
+        check.due("plan", bell.plan(2, 0, 3, 0), 0);
+        Check.book(bell, "0 0;30 0;");
+        check.due("fits", bell.fits(0), 4200);
+        Check.work(bell, "night;");
+        check.due("STROKES", bell.told(8), 0);
+        check.due("years", bell.years(1, 2, 16, 0, 0, 1), 180);
     }
 
     private static void quietNights() {

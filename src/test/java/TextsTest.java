@@ -16,6 +16,7 @@ public final class TextsTest {
         books();
         bookFaults();
         faultIsOfTheLatestText();
+        textsEndAtTheirLength();
         check.end();
     }
 
@@ -117,6 +118,8 @@ public final class TextsTest {
             {"village 0;", -8, 8}, {"village 21;", -8, 8}, {"cell 10;", -8, 5}, {"cell 0;monk 41;", -8, 12},
             {"heir 0;", -8, 5}, {"heir 100;", -8, 5}, {"owe 1;monk 1;cell 1;", -7, 6}, {"monk 99;", -7, 0},
             {"monk", -7, 0}, {"cell 1;monk 1;  monk 1;", -7, 16}, {"{", -9, 0}, {"owe 1;\u00ff", -9, 6},
+            {"bwe 1;", -9, 0}, {"fate 1;", -9, 0}, {"whest 1;", -9, 0}, {"owez 1;", -9, 0}, {"ow 1;", -9, 0},
+            {"heirs 1;", -9, 0}, {"owe`1;", -9, 3}, {"owe{1;", -9, 3}, {"owe 1:", -9, 5}, {"owe 1/;", -9, 5},
             {Check.times(7, "village 1;"), -7, 60}, {Check.times(9, "cell 1;"), -7, 56},
             {Check.times(8, "cell 1;") + Check.times(9, "monk 1;"), -7, 112}, {Check.times(5, "heir 1;"), -7, 28},
             {Check.times(61, "owe 1;"), -7, 360}, {Check.times(60, "owe 1;") + "x", -9, 360},
@@ -156,6 +159,29 @@ public final class TextsTest {
         check.due("MONKS have not woken", bell.monk(0, 3), 0);
         check.due("VILLAGES may give", bell.village(0, 1), 0);
         check.due("all pairs fit", bell.fits(0), 4200);
+        Check.abbey(bell, HOUSE + "owe 9;chest 99;harvest 0 7;harvest 11 8;");
+        Check.work(bell, "receipt 9;again 9 [night;];");
+        Check.work(bell, "pay 5;alms 0;wax;receipt 4;");
+        Check.abbey(bell, HOUSE + "chest 4;");
+        check.due("nothing is paid", bell.told(4), 0);
+        check.due("no wax", bell.told(5), 0);
+        check.due("nothing hangs", bell.told(6), 0);
+        check.due("for no NIGHTS", bell.told(7), 0);
+        check.due("VILLAGES may give", bell.village(0, 1), 0);
+        check.due("no QUIET", bell.told(3), 0);
+        check.due("the CHEST", bell.told(1), 4);
+        Check.work(bell, "receipt 3;again 7 [night;];");
+        check.due("came down", bell.told(12), 3);
+        Check.abbey(bell, HOUSE);
+        check.due("came down no more", bell.told(12), 0);
+        Check.work(bell, "again 24 [night;];");
+        check.due("no harvest of an ABBEY before", bell.told(1), 0);
+        Check.abbey(bell, "chest 9;");
+        Check.law(bell, "asks+chest");
+        Check.book(bell, "0 9;");
+        check.due("the CHEST of 9", bell.fits(0), 21);
+        Check.abbey(bell, "");
+        check.due("no BOOK", bell.fits(0), 4200);
     }
 
     /** asks 7, paid 11, night 13, quiet 17, wax 1, storm 0, chest 23 by a LAW. */
@@ -216,6 +242,8 @@ public final class TextsTest {
             {"most[,1]", -9, 5}, {"most[1,]", -9, 7}, {"1;", -9, 1}, {"A", -9, 0}, {"\u0000", -9, 0}, {"-1", -9, 0},
             {"(((((((1)))))))", -7, 6}, {"((((((least[1,2]))))))", -7, 6}, {"((((((most", -7, 6},
             {"((((((less", -9, 6}, {"least[1,least[1,least[1,least[1,least[1,least[1,(1)]]]]]]", -7, 48},
+            {"most[most[most[most[most[most[(1),1],1],1],1],1],1]", -7, 30}, {"(((((least[1,(((", -7, 13},
+            {"(((((least[(", -7, 11}, {"bsks", -9, 0}, {"leastz[1,2]", -9, 0}, {"feast[1,2]", -9, 0}, {"1:2", -9, 1},
             {"((((((1)))))))", -9, 13}, {"asks % 1000000000000", -8, 7}, {"1 +\t1", -9, 3},
         };
         for (Object[] row : faults) {
@@ -245,6 +273,7 @@ public final class TextsTest {
             check.due("to undo: " + row[0], bell.kept(2), 1);
             check.due("no FAULT: " + row[0], bell.fault(), -1);
         }
+        check.due("the longest WORK", Check.work(Check.told(HOUSE), Check.times(25, "night;")), 25);
         OwedBell bell = Check.told(HOUSE);
         for (int i = 1; i <= 16; i++) {
             check.due("WORK " + i, Check.work(bell, "wax;"), i == 1 ? 1 : 0);
@@ -262,7 +291,8 @@ public final class TextsTest {
 
     private static void workFaults() {
         Object[][] faults = {
-            {"night", -9, 5}, {"nights;", -9, 0}, {"night;;", -9, 6}, {"pay;", -9, 3}, {"pay 0;", -8, 4},
+            {"night", -9, 5}, {"nights;", -9, 0}, {"night;;", -9, 6}, {"pay;", -9, 3}, {"nay 1;", -9, 0}, {"fax;", -9, 0}, {"payz 1;", -9, 0},
+            {"light;", -9, 0}, {"waxes;", -9, 0}, {"pay/1;", -9, 3}, {"pay:1;", -9, 3}, {"pay 0;", -8, 4},
             {"pay 1000;", -8, 4}, {"alms 1;", -8, 5}, {"receipt 0;", -8, 8}, {"receipt 1000;", -8, 8},
             {"swap 2 0;", -8, 5}, {"swap 0 2;", -8, 7}, {"swap 0;", -9, 6}, {"again 31 [];", -8, 6}, {"again [];", -9, 6},
             {"again 1 night;", -9, 8}, {"again 1 [night];", -9, 14}, {"again 1 [night;]", -9, 16},
@@ -294,6 +324,7 @@ public final class TextsTest {
         check.due("lines", bell.told(10), 2);
         check.due("eight lines", Check.book(bell, "0 1;1 1;2 1;3 1;4 1;5 1;6 1;59 999;  "), 8);
         check.due("lines", bell.told(10), 8);
+        check.due("the longest BOOK", Check.book(bell, "0 1;" + Check.times(96, " ")), 1);
         check.due("no lines", Check.book(bell, ""), 0);
         check.due("lines", bell.told(10), 0);
     }
@@ -314,6 +345,28 @@ public final class TextsTest {
             check.due("the BOOK stays: " + row[0], bell.told(10), 1);
             check.due("the TAPE is empty: " + row[0], bell.kept(1), 0);
         }
+    }
+
+    private static void textsEndAtTheirLength() {
+        OwedBell bell = new OwedBell();
+        Check.feed(bell, "owe 12;rate 5;");
+        check.due("within a number", bell.abbey(5), -9);
+        check.due("at the length", bell.fault(), 5);
+        Check.feed(bell, "1+23");
+        check.due("within a number", bell.law(3), 1);
+        check.due("the LAW 1+2", bell.strokes(), 3);
+        Check.feed(bell, "asks");
+        check.due("within a word", bell.law(3), -9);
+        check.due("at its first byte", bell.fault(), 0);
+        Check.feed(bell, "night;night;night");
+        check.due("ahead of the third", bell.work(12), 2);
+        Check.feed(bell, "0 7;1 7;");
+        check.due("ahead of the second", bell.book(4), 1);
+        Check.feed(bell, "0 7;");
+        check.due("ahead of ;", bell.book(3), -9);
+        check.due("at the length", bell.fault(), 3);
+        Check.feed(bell, "5  ");
+        check.due("zeros behind it are not read", bell.law(2), 1);
     }
 
     private static void faultIsOfTheLatestText() {
