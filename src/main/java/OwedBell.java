@@ -66,7 +66,7 @@ public final class OwedBell {
     private static final int LEFT = 2004;
     private static final int LEAST = 2005;
     private static final int MOST = 2006;
-    // six open brackets hold back three values each, and the innermost needs four: 22
+    // 21 values wait at most: two of the outermost E, three of each of six open ones, and the one on top
     private static final int STACK = 32;
 
     private final Tape tape = new Tape();

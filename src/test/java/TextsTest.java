@@ -193,6 +193,7 @@ public final class TextsTest {
     }
 
     private static void laws() {
+        check.due("the most values that wait", would(Check.times(6, "1+1*most[0,") + "1+1*1" + Check.times(6, "]")), 8);
         Object[][] laws = {
             {"asks", 7}, {"paid", 11}, {"night", 13}, {"quiet", 17}, {"wax", 1}, {"storm", 0}, {"chest", 23},
             {"999", 999}, {" 5 ", 5}, {"2+3*4", 14}, {"(2+3)*4", 20}, {"20-5-3", 12}, {"20-(5-3)", 18},
