@@ -88,6 +88,25 @@ public final class EdgesOfAnswersTest {
         plan(bell, new int[] {5, 60, 17}, 40, 40000);
         plan(bell, new int[] {5, 70, 8}, 30, 120);
         plan(bell, new int[] {5, 30, 31}, -1, -1);
+        edge.holds(21, "PLAN of n, b and told bits (the first NIGHT the lowest)");
+        for (int i = 0; i < 5; i++) {
+            // only in NIGHT i it strikes, if less than 10 were paid for it
+            OwedBell one = Check.told("owe 90;chest 90;", "(night+" + (120 - i) + ")%12");
+            plan(one, new int[] {5, 0, 1 << i}, 0, 0);
+            plan(one, new int[] {5, 0, 31 & 2 << i}, i == 4 ? 0 : -1, i == 4 ? 0 : -1);
+        }
+        edge.holds(21, "ahead of each of the next n NIGHTS, this one first, 0, 10, 20 or 40 are paid, as by pay");
+        int[][] paid = {{100, 0}, {99, 1}, {90, 1}, {89, 2}, {80, 2}, {79, 4}, {70, 4}, {61, 4}, {60, 4}, {59, -1}};
+        for (int[] row : paid) {
+            OwedBell rich = Check.told("owe 100;chest 100;", "asks");
+            plan(rich, new int[] {1, row[0], 1}, row[1] < 0 ? -1 : 10 * row[1], row[1]);
+        }
+        plan(Check.told("owe 100;chest 100;", "paid*(1-night)"), new int[] {2, 9, 3}, 0, 0);
+        edge.holds(21, "the least in all by which STROKES are b at most in each NIGHT told");
+        plan(Check.told("owe 100;chest 100;", "asks+paid*4"), new int[] {3, 90, 4}, 10, 10);
+        plan(Check.told("owe 100;chest 100;", "asks+paid*4"), new int[] {3, 90, 7}, -1, -1);
+        plan(Check.told("owe 100;chest 100;", "asks+paid*4"), new int[] {3, 130, 7}, 0, 0);
+        plan(Check.told("owe 100;chest 100;", "50-night*50+asks"), new int[] {3, 149, 1}, 10, 100);
         edge.holds(21, "of alike ones the first (NIGHT by NIGHT, less first)");
         plan(Check.told("owe 100;chest 70;", "asks"), new int[] {3, 80, 4}, 20, 2);
         plan(Check.told("owe 100;chest 70;", "asks+paid"), new int[] {3, 80, 4}, 20, 20);
@@ -267,6 +286,13 @@ public final class EdgesOfAnswersTest {
             fraction(bell, new int[] {3, 8, 0, t, 1}, (8 - below) / divisor, 8 / divisor);
             below += t < 4 ? ways[t] : 0;
         }
+        edge.holds(24, "MISSED: how likely a false one is held true; WRONGED: a true one false");
+        fraction(bell, new int[] {1, 3, 5, 1, 0}, 11, 16);
+        fraction(bell, new int[] {1, 3, 5, 1, 1}, 3, 16);
+        fraction(bell, new int[] {2, 3, 5, 1, 0}, 121, 256);
+        fraction(bell, new int[] {2, 3, 5, 2, 0}, 231, 256);
+        fraction(bell, new int[] {2, 3, 5, 1, 1}, 87, 256);
+        fraction(bell, new int[] {2, 3, 5, 2, 1}, 9, 256);
         edge.holds(24, "of a true receipt each is dull by P of 16, of a false one by Q");
         long all = 4294967296L;
         fraction(bell, new int[] {8, 0, 0, 1, 0}, 1, 1);
@@ -340,6 +366,9 @@ public final class EdgesOfAnswersTest {
         edge.range("bed, s", (b, a) -> b.bed(a[0], a[1]), new int[] {1, 40}, 1, 0, 999, Edge.BAD);
         edge.refused("no MONK goes ahead", (b, a) -> b.bed(2, 1000), Edge.full(), new int[0], Edge.NONE_SUCH);
         edge.refused("no MONK goes ahead", (b, a) -> b.bed(-1, -1), Edge.full(), new int[0], Edge.NONE_SUCH);
+        OwedBell first = Check.told("cell 9;cell 0;cell 3;monk 2;monk 10;");
+        edge.due("asked without beds()", first.bed(1, 20), 2);
+        edge.due("by other strokes", first.bed(1, 2), 1);
         edge.due("no MONKS, no CELLS", new OwedBell().beds(999), 0);
         edge.due("no MONKS", Check.told("cell 0;").beds(0), 0);
         edge.holds(27, "of all ways for MONKS to sleep in CELLS of their own that by which most sleep, if it strikes s (no wax); "
@@ -396,6 +425,13 @@ public final class EdgesOfAnswersTest {
             }
         }
         edge.due("alone in 60", one.watch(0, 60), 60);
+        OwedBell near = Check.told("cell 0;cell 0;cell 0;monk 5;monk 6;monk 5;");
+        int[][] byOne = {{0, 0, 0}, {0, 1, 0}, {1, 1, 0}, {1, 1, 1}, {1, 2, 1}, {2, 2, 1}};
+        for (int n = 0; n < byOne.length; n++) {
+            for (int i = 0; i < 3; i++) {
+                edge.due("L greater by one, in " + n + ", " + i, near.watch(i, n), byOne[n][i]);
+            }
+        }
         OwedBell eight = Check.told(Check.times(8, "cell 0;") + Check.times(8, "monk 5;"));
         for (int i = 0; i < 8; i++) {
             edge.due("of eight in 7", eight.watch(i, 7), i < 7 ? 1 : 0);
@@ -453,6 +489,12 @@ public final class EdgesOfAnswersTest {
         inherited("owe 19;heir 99;heir 99;", 2, 6, 1, 10);
         // 0 3, 1 2, 2 1, 3 0, 3 3
         inherited("owe 30;heir 5;heir 99;", 3, 5, 3, 30);
+        // 0 2, 1 1, 2 0, 2 2: by 1 2 and 2 1 all have nothing, and one would have more by 1
+        inherited("owe 20;heir 1;heir 99;", 2, 4, 2, 20);
+        edge.holds(29, "HEIRS: each bids 0 to k tens of his own choice");
+        inherited("owe 40;heir 99;heir 99;", 1, 1, 11, 20);
+        inherited("owe 40;heir 99;heir 99;", 2, 1, 22, 40);
+        inherited("owe 40;heir 99;heir 99;", 3, 3, 13, 40);
         OwedBell bell = Check.told("owe 30;chest 99;heir 99;");
         edge.due("of 30", bell.heirs(9, 1), 3);
         work(bell, "pay 1;");
@@ -598,6 +640,16 @@ public final class EdgesOfAnswersTest {
         work(bell, "night;");
         edge.due("by 33: none wakes", bell.years(5, 1, 0, 16, 0, 2), 0);
         edge.due("by 55, behind six NIGHTS", bell.years(5, 7, 0, 16, 0, 2), 1);
+        edge.holds(34, "0 OWED then, 1 STROKES in them, 2 how often MONKS woke in them, 3 storms.");
+        OwedBell rung = Check.told("owe 500;rate 10;cell 0;cell 0;monk 0;monk 5;", "5+storm");
+        work(rung, "again 12[night;];");
+        edge.due("before", rung.told(8) * 100 + rung.told(9), 6000 + 12);
+        edge.due("OWED then", rung.years(5, 12, 0, 0, 0, 0), 605);
+        edge.due("STROKES in them", rung.years(5, 12, 0, 0, 0, 1), 60);
+        edge.due("MONKS woke in them", rung.years(5, 12, 0, 0, 0, 2), 12);
+        edge.due("MONKS woke in storms", rung.years(5, 12, 16, 0, 0, 2), 24);
+        edge.due("STROKES in storms", rung.years(5, 12, 16, 0, 0, 1), 72);
+        edge.due("storms", rung.years(5, 12, 16, 0, 0, 3), 12);
         OwedBell little = Check.told("owe 10;rate 0;chest 99;", "paid");
         edge.due("what is OWED ends it", little.years(5, 1, 0, 16, 99, 0), 0);
         edge.due("paid", little.years(5, 1, 0, 16, 99, 1), 10);

@@ -14,6 +14,8 @@ public final class EdgesOfNightsTest {
         would();
         noise();
         atFirst();
+        inOrder();
+        noStorm();
         paying();
         alms();
         waxAndSwap();
@@ -196,6 +198,12 @@ public final class EdgesOfNightsTest {
         OwedBell most = Check.told(Check.times(8, "cell 1;") + Check.times(7, "monk 3;") + "monk 40;");
         edge.due("the last MONK", most.monk(7, 0), 40);
         edge.refused("MONK 8", (b, a) -> b.monk(8, 0), most, new int[0], Edge.NONE_SUCH);
+        edge.holds(11, "3 how often he woke by now");
+        OwedBell two = Check.told("cell 0;cell 0;monk 7;monk 8;", "8");
+        edge.due("never", two.monk(0, 3), 0);
+        work(two, "night;wax;night;night;");
+        edge.due("two of three", two.monk(0, 3), 2);
+        edge.due("never", two.monk(1, 3), 0);
         edge.holds(11, "2 1 he wakes this NIGHT, 0 not");
         for (int strokes = 5; strokes <= 9; strokes++) {
             OwedBell one = Check.told("cell 1;monk 3;", "" + strokes);
@@ -313,6 +321,60 @@ public final class EdgesOfNightsTest {
         Check.abbey(bell, "owe 0;chest 0;");
         edge.due("0 OWED", bell.told(0), 0);
         edge.due("0 in the CHEST", bell.told(1), 0);
+    }
+
+    private static void inOrder() {
+        edge.holds(5, "STEPS are done in order; one that can't be done is REFUSED, and changes nothing");
+        String abbey = "owe 50;chest 5;village 6;cell 0;monk 9;";
+        String[] works = {"pay 6;alms 0;", "alms 0;pay 6;", "pay 11;alms 0;pay 11;", "wax;night;wax;", "wax;wax;night;", "night;pay 3;",
+            "pay 3;night;", "again 2[alms 0;pay 4;];", "again 2[pay 4;alms 0;];"};
+        int[][] due = {{1, 1, 11, 0, 0}, {2, 0, 5, 6, 0}, {2, 1, 0, 11, 0}, {3, 0, 5, 0, 1}, {2, 1, 5, 0, 0}, {2, 0, 2, 3, 0},
+            {2, 0, 2, 0, 0}, {3, 1, 3, 8, 0}, {3, 1, 3, 8, 0}};
+        for (int i = 0; i < works.length; i++) {
+            OwedBell bell = Check.told(abbey);
+            edge.due(works[i] + ": done", work(bell, works[i]), due[i][0]);
+            edge.due(works[i] + ": REFUSED", bell.told(11), due[i][1]);
+            edge.due(works[i] + ": CHEST", bell.told(1), due[i][2]);
+            edge.due(works[i] + ": paid", bell.told(4), due[i][3]);
+            edge.due(works[i] + ": wax", bell.told(5), due[i][4]);
+        }
+        edge.holds(5, "it strikes by the LAW");
+        OwedBell bell = Check.told(abbey, "night+7");
+        work(bell, "night;");
+        edge.due("STROKES", bell.told(8), 7);
+        work(bell, "night;night;");
+        edge.due("STROKES", bell.told(8), 7 + 8 + 9);
+        edge.holds(9, "the NIGHT is one more.");
+        edge.due("NIGHT", bell.told(2), 3);
+    }
+
+    private static void noStorm() {
+        edge.holds(9, "nothing hangs there, no wax, no storm");
+        OwedBell bell = Check.told("owe 90;chest 90;cell 0;cell 0;monk 0;monk 0;", "storm*9");
+        Check.book(bell, "0 0;59 0;");
+        edge.due("STROKES", bell.strokes(), 0);
+        edge.due("he sleeps", bell.monk(0, 2) + bell.monk(1, 2), 0);
+        edge.due("ahead, STROKES", bell.ahead(60, 0), 0);
+        edge.due("ahead, silent", bell.ahead(60, 3), 60);
+        edge.due("loudest", bell.loudest(1), 0);
+        edge.due("hush", bell.hush(0), 0);
+        edge.due("plan", bell.plan(3, 0, 7, 1), 0);
+        edge.due("fits", bell.fits(0), 4200);
+        work(bell, "night;");
+        edge.due("struck", bell.told(8) + bell.told(9), 0);
+        Check.law(bell, "1-storm");
+        edge.due("STROKES", bell.strokes(), 1);
+        edge.due("they wake", bell.monk(0, 2) + bell.monk(1, 2), 2);
+        edge.due("ahead, silent", bell.ahead(60, 3), 0);
+        edge.due("loudest", bell.loudest(1), 1);
+        edge.due("hush", bell.hush(0), -1);
+        edge.due("plan", bell.plan(3, 0, 7, 1), -1);
+        edge.due("fits", bell.fits(0), 0);
+        work(bell, "night;");
+        edge.due("struck", bell.told(8), 1);
+        Check.law(bell, "asks*(5-storm*3)");
+        edge.due("less by a storm: none", bell.hush(450 - 5 * 7), 7);
+        edge.due("more", bell.monk(0, 2), 1);
     }
 
     /** The STEP is REFUSED, is counted, and changes nothing. */
@@ -434,6 +496,17 @@ public final class EdgesOfNightsTest {
             edge.due("6 NIGHTS", bell.told(7), 6);
             edge.due("strokes", bell.strokes(), 250);
         }
+        edge.holds(9, "6 N of the receipt that hangs (0: none), 7 NIGHTS it hangs still, this one first");
+        OwedBell late = Check.told("", "0");
+        edge.due("none", late.told(6) + late.told(7), 0);
+        work(late, "again 3[night;];receipt 44;");
+        edge.due("N", late.told(6), 44);
+        edge.due("7, this one first", late.told(7), 7);
+        work(late, "again 6[night;];");
+        edge.due("1, this one", late.told(7), 1);
+        edge.due("N", late.told(6), 44);
+        work(late, "night;");
+        edge.due("none", late.told(6) + late.told(7), 0);
         edge.holds(9, "12 N of a receipt that came down for this NIGHT (0: none)");
         OwedBell bell = Check.told("owe 5;", "0");
         work(bell, "receipt 9;again 6[night;];");

@@ -12,6 +12,7 @@ public final class EdgesOfTextsTest {
         tape();
         abbeyLength();
         abbeyTakesAll();
+        abbeyWithout();
         abbeyNumbers();
         abbeyCounts();
         lastCounts();
@@ -200,6 +201,32 @@ public final class EdgesOfTextsTest {
         edge.abbeyFault("owe 5;rate 4;chest 3;village 2;cell 1;monk 0;monk 0;", MANY, 45);
     }
 
+    private static void abbeyWithout() {
+        String rich = "owe 9;rate 20;chest 900;" + harvests(99) + "village 3;cell 0;cell 2;monk 0;monk 0;heir 9;";
+        edge.holds(3, "(NIGHT 0; no LAW, BOOK, IMAGES, nothing to undo)");
+        for (String works : new String[] {"receipt 9;again 7[night;];pay 1;alms 0;wax;receipt 5;swap 0 1;", "receipt 5;night;pay 1;",
+            "again 5[night;];alms 0;", "wax;swap 0 1;", ""}) {
+            for (String law : new String[] {"0", "999"}) {
+                OwedBell bell = Check.told(rich, law);
+                Check.book(bell, "0 0;");
+                Check.work(bell, works + "pay 999;");
+                Check.abbey(bell, rich);
+                edge.same("behind " + works, Edge.look(bell), Edge.look(Check.told(rich)));
+                edge.due("no BOOK behind " + works, bell.fits(0), 4200);
+            }
+        }
+        edge.holds(3, "(crowns, 0 to 9999; 100 without)");
+        OwedBell bell = Check.told(rich);
+        Check.abbey(bell, rich);
+        Check.abbey(bell, rich.replace("chest 900", "chest 9000"));
+        Check.abbey(bell, "");
+        edge.same("nothing is left of ABBEYS before", Edge.look(bell), Edge.look(new OwedBell()));
+        edge.due("100 without", bell.told(0), 100);
+        edge.due("5 without", bell.ahead(12, 1), 105);
+        edge.due("0 without", bell.told(1), 0);
+        edge.due("0 without, in no NIGHT", night(bell, 12), 0);
+    }
+
     private static int worksUntilFull(OwedBell bell) {
         int works = 0;
         while (works < 20 && bell.work(0) == 0) {
@@ -360,11 +387,17 @@ public final class EdgesOfTextsTest {
             edge.abbeyFault(word + "a 9;", CANNOT, 0);
             edge.abbeyFault(word + "z 9;", CANNOT, 0);
             edge.abbeyFault("a" + word + " 9;", CANNOT, 0);
+            edge.abbeyFault(otherLetter(word, 0) + " 9;", CANNOT, 0);
+            edge.abbeyFault(otherLetter(word, word.length() - 1) + " 9;", CANNOT, 0);
             edge.abbeyFault(word.substring(1) + " 9;", CANNOT, 0);
             edge.abbeyFault(word.substring(0, word.length() - 1) + " 9;", CANNOT, 0);
             edge.abbeyFault(word.substring(0, 2) + " " + word.substring(2) + " 9;", CANNOT, 0);
             edge.abbeyFault(word.toUpperCase() + " 9;", CANNOT, 0);
         }
+    }
+
+    private static String otherLetter(String word, int at) {
+        return word.substring(0, at) + (char) (word.charAt(at) + 1) + word.substring(at + 1);
     }
 
     private static void abbeyFaults() {
@@ -407,6 +440,7 @@ public final class EdgesOfTextsTest {
     private static void lawLength() {
         edge.holds(4, "Likewise the LAW (n to 150): 1.");
         textLength("law", (b, a) -> b.law(a[0]), 150);
+        edge.holds(4, "A LAW is a text of up to 150 bytes");
         OwedBell bell = Edge.full();
         String undone = Edge.unwind(Edge.full());
         edge.due("149 bytes", Check.law(bell, "1" + Check.times(74, "+1")), 1);
@@ -505,6 +539,8 @@ public final class EdgesOfTextsTest {
         for (String word : "asks paid night quiet wax storm chest".split(" ")) {
             edge.lawFault(word + "z", CANNOT, 0);
             edge.lawFault("a" + word, CANNOT, 0);
+            edge.lawFault(otherLetter(word, 0), CANNOT, 0);
+            edge.lawFault(otherLetter(word, word.length() - 1), CANNOT, 0);
             edge.lawFault(word.substring(0, 2), CANNOT, 0);
             edge.lawFault(word.substring(1), CANNOT, 0);
             edge.lawFault(word + "5", CANNOT, word.length());
@@ -649,6 +685,7 @@ public final class EdgesOfTextsTest {
     private static void workLength() {
         edge.holds(5, "Likewise WORK (n to 150), which is done");
         textLength("work", (b, a) -> b.work(a[0]), 150);
+        edge.holds(5, "WORK is a text of up to 150 bytes: { STEP \";\" }.");
         OwedBell bell = new OwedBell();
         edge.due("149 bytes", Check.work(bell, " wax;" + Check.times(24, "night;")), 25);
         edge.due("NIGHT", bell.told(2), 24);
@@ -710,7 +747,7 @@ public final class EdgesOfTextsTest {
         edge.workFault("swap 2;", NUMBER, 5);
         edge.workFault("swap 1;", CANNOT, 6);
         edge.workFault("swap 01;", CANNOT, 7);
-        edge.holds(5, "(N 0 to 30)");
+        edge.holds(5, "\"night\", or \"again\" N \"[\" { STEP \";\" } \"]\" (N 0 to 30)");
         step("again ", 0, 30);
         for (int n : new int[] {0, 1, 29, 30}) {
             edge.due("again " + n, Check.work(new OwedBell(), "again " + n + "[night;];"), n);
@@ -748,6 +785,8 @@ public final class EdgesOfTextsTest {
         for (String word : "pay alms wax receipt swap night again".split(" ")) {
             edge.workFault(word + "z 1;", CANNOT, 0);
             edge.workFault("a" + word + " 1;", CANNOT, 0);
+            edge.workFault(otherLetter(word, 0) + " 1;", CANNOT, 0);
+            edge.workFault(otherLetter(word, word.length() - 1) + " 1;", CANNOT, 0);
             edge.workFault(word.substring(1) + " 1;", CANNOT, 0);
             edge.workFault(word.substring(0, word.length() - 1) + " 1;", CANNOT, 0);
         }
@@ -872,10 +911,12 @@ public final class EdgesOfTextsTest {
             edge.due(i + 1 + " lines", Check.book(bell, lines), i + 1);
             edge.due("told", bell.told(10), i + 1);
         }
+        edge.holds(6, "a line (at its I) too many");
         edge.bookFault(lines + "8 10;", MANY, 40);
         edge.bookFault(lines + "  8 10;", MANY, 42);
         edge.bookFault(lines + "8", MANY, 40);
         edge.bookFault(lines + "8 1000;", MANY, 40);
+        edge.holds(6, "2 a number that is none such (an I twice)");
         edge.bookFault("0 10;0 10;", NUMBER, 5);
         edge.bookFault("0 10; 00 11;", NUMBER, 6);
         edge.bookFault("7 0;8 0;7 0;", NUMBER, 8);
