@@ -98,6 +98,15 @@ final class Check {
         return bell;
     }
 
+    /** CLAUSES by which so many crowns come in each NIGHT. */
+    static String harvests(int crowns) {
+        StringBuilder text = new StringBuilder();
+        for (int i = 0; i < 12; i++) {
+            text.append("harvest ").append(i).append(' ').append(crowns).append(';');
+        }
+        return text.toString();
+    }
+
     static String times(int n, String text) {
         return text.repeat(n);
     }

@@ -13,10 +13,15 @@ final class Edge {
         long ask(OwedBell bell, int... a);
     }
 
-    interface Answer {
-        long to(int value);
+    private interface Read {
+        int of(OwedBell bell, String text);
     }
 
+    static final int CANNOT = 1;
+    static final int NUMBER = 2;
+    static final int MANY = 3;
+    /** Signs that stand in no text, those next to blanks, digits and small letters among them. */
+    static final String SIGNS_AROUND = "\u0000\t\n\u001f!/:@A`{\u007f\u00a0\u00ff";
     static final Class<?> NONE_SUCH = java.util.NoSuchElementException.class;
     static final Class<?> BAD = IllegalArgumentException.class;
 
@@ -66,35 +71,27 @@ final class Edge {
 
     // ---- texts ----
 
-    /** An ABBEY is refused with a FAULT of this kind at this place; what was told before stays. */
+    /** The text has a FAULT of this kind at this place; all but the TAPE stays as it was. */
     void abbeyFault(String text, int kind, int place) {
-        OwedBell bell = full();
-        String before = look(bell);
-        due("abbey \"" + text + "\"", Check.abbey(bell, text), kind - 10);
-        due("place in \"" + text + "\"", bell.fault(), place);
-        stays(text, bell, before);
+        fault("abbey", Check::abbey, text, kind, place);
     }
 
     void lawFault(String text, int kind, int place) {
-        OwedBell bell = full();
-        String before = look(bell);
-        due("law \"" + text + "\"", Check.law(bell, text), kind - 10);
-        due("place in \"" + text + "\"", bell.fault(), place);
-        stays(text, bell, before);
+        fault("law", Check::law, text, kind, place);
     }
 
     void workFault(String text, int kind, int place) {
-        OwedBell bell = full();
-        String before = look(bell);
-        due("work \"" + text + "\"", Check.work(bell, text), kind - 10);
-        due("place in \"" + text + "\"", bell.fault(), place);
-        stays(text, bell, before);
+        fault("work", Check::work, text, kind, place);
     }
 
     void bookFault(String text, int kind, int place) {
+        fault("book", Check::book, text, kind, place);
+    }
+
+    private void fault(String name, Read read, String text, int kind, int place) {
         OwedBell bell = full();
         String before = look(bell);
-        due("book \"" + text + "\"", Check.book(bell, text), kind - 10);
+        due(name + " \"" + text + "\"", read.of(bell, text), kind - 10);
         due("place in \"" + text + "\"", bell.fault(), place);
         stays(text, bell, before);
     }
@@ -104,6 +101,46 @@ final class Edge {
         due("a FAULT is no refusal: \"" + text + "\"", bell.status(0) + bell.status(1), 0);
         same("all else stays behind \"" + text + "\"", look(bell), before);
         same("what can be undone stays behind \"" + text + "\"", unwind(bell), unwind(full()));
+    }
+
+    /** Of a text's call n may be 0 to the TAPE's bytes and to most; else it is refused, and the TAPE stays. */
+    void textLength(String name, Edge.Call call, int most) {
+        for (int bytes : new int[] {0, 20, 100, 140, 160, 600}) {
+            OwedBell bell = full();
+            Check.feed(bell, "owe 7;cell 0;" + Check.times(Math.max(bytes - 13, 0), "\u0001"));
+            if (bytes == 0) {
+                bell.law(0);
+            }
+            int fault = bell.fault();
+            String before = look(bell);
+            for (int n : new int[] {-1, Integer.MIN_VALUE, bytes + 1, Math.min(bytes, most) + 1, most + 1, Integer.MAX_VALUE}) {
+                if (n < 0 || n > bytes || n > most) {
+                    refused(name + " " + n + " of " + bytes, call, bell, new int[] {n}, BAD);
+                }
+            }
+            due(name + ": the TAPE stays", bell.kept(1), bytes);
+            due(name + ": the FAULT is the latest text's", bell.fault(), fault);
+            same(name + ": nothing else is changed", look(bell), before);
+            if (bytes > 0) {
+                due(name + ": the bytes are the same", bell.abbey(13), 0);
+                due(name + ": their owe", bell.told(0), 7);
+            }
+        }
+        for (int bytes : new int[] {20, most / 20 * 20, Math.min(most / 20 * 20 + 20, 600)}) {
+            for (int n : new int[] {0, 1, bytes - 1, bytes, most - 1, most}) {
+                if (n <= bytes && n <= most) {
+                    OwedBell bell = new OwedBell();
+                    Check.feed(bell, Check.times(bytes, " "));
+                    call.ask(bell, n);
+                    due(name + " of " + n + " is read", bell.status(1) + bell.kept(1), 0);
+                }
+            }
+        }
+    }
+
+    /** The word with the letter at this place put one on. */
+    static String otherLetter(String word, int at) {
+        return word.substring(0, at) + (char) (word.charAt(at) + 1) + word.substring(at + 1);
     }
 
     // ---- ranges ----

@@ -443,6 +443,7 @@ public final class EdgesOfAnswersTest {
 
     private static void inherited(String abbey, int k, int rests, int first, int together) {
         OwedBell bell = Check.told(abbey);
+        edge.isTrue("by 9, ahead of others", bell.heirs(9, 0) > 0);
         edge.due(abbey + " by " + k, bell.heirs(k, 0), rests);
         edge.due(abbey + " by " + k + ", the first", bell.heirs(k, 1), first);
         edge.due(abbey + " by " + k + ", together", bell.heirs(k, 2), together);
@@ -761,6 +762,21 @@ public final class EdgesOfAnswersTest {
             edge.due("paid", works16.told(4), left);
         }
         edge.due("none", works16.undo(), -1);
+        OwedBell other = Check.told("chest 50;");
+        work(other, "pay 1;");
+        work(other, "pay 1;");
+        work(other, "pay 1;");
+        other.image();
+        other.undo();
+        other.undo();
+        work(other, "pay 9;");
+        work(other, "pay 9;");
+        work(other, "pay 9;");
+        edge.due("restored", other.restore(), 0);
+        for (int left = 2; left >= 0; left--) {
+            edge.due("undone", other.undo(), left);
+            edge.due("paid", other.told(4), left);
+        }
         restoredLeaves();
     }
 

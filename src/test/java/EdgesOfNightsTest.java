@@ -47,14 +47,6 @@ public final class EdgesOfNightsTest {
         }
     }
 
-    private static String eachMonth(int crowns) {
-        StringBuilder text = new StringBuilder();
-        for (int i = 0; i < 12; i++) {
-            text.append("harvest ").append(i).append(' ').append(crowns).append(';');
-        }
-        return text.toString();
-    }
-
     // ---- promise 8 ----
 
     private static void undoing() {
@@ -362,6 +354,13 @@ public final class EdgesOfNightsTest {
         edge.due("fits", bell.fits(0), 4200);
         work(bell, "night;");
         edge.due("struck", bell.told(8) + bell.told(9), 0);
+        Check.law(bell, "0-storm");
+        edge.due("no storm the other way round", bell.strokes() + bell.monk(0, 2) + bell.ahead(60, 0) + bell.loudest(1), 0);
+        edge.due("silent", bell.ahead(60, 3), 60);
+        edge.due("hush, plan", bell.hush(0) + bell.plan(3, 0, 7, 1), 0);
+        edge.due("fits", bell.fits(0), 4200);
+        work(bell, "night;");
+        edge.due("struck", bell.told(8) + bell.told(9), 0);
         Check.law(bell, "1-storm");
         edge.due("STROKES", bell.strokes(), 1);
         edge.due("they wake", bell.monk(0, 2) + bell.monk(1, 2), 2);
@@ -413,7 +412,7 @@ public final class EdgesOfNightsTest {
 
     private static void alms() {
         edge.holds(5, "alms: A come into the CHEST, 9,999 at most (REFUSED, if V gave since the latest NIGHT).");
-        OwedBell bell = Check.told("owe 9999;rate 0;chest 999;village 1;village 20;" + eachMonth(99));
+        OwedBell bell = Check.told("owe 9999;rate 0;chest 999;village 1;village 20;" + Check.harvests(99));
         nights(bell, 100);
         edge.due("9,999", bell.told(1), 9999);
         for (int less = 0; less <= 2; less++) {
@@ -545,7 +544,7 @@ public final class EdgesOfNightsTest {
 
     private static void theLastNight() {
         edge.holds(5, "night (REFUSED from 999 on)");
-        OwedBell bell = Check.told("chest 9;village 2;cell 0;cell 0;monk 0;monk 0;" + eachMonth(1), "night");
+        OwedBell bell = Check.told("chest 9;village 2;cell 0;cell 0;monk 0;monk 0;" + Check.harvests(1), "night");
         nights(bell, 997);
         edge.due("997", bell.told(2), 997);
         edge.due("done", work(bell, "night;"), 1);
@@ -626,7 +625,7 @@ public final class EdgesOfNightsTest {
         edge.due("of 99", bell.told(1), 1099);
         work(bell, "night;");
         edge.due("of none", bell.told(1), 1099);
-        OwedBell full = Check.told("owe 9999;rate 0;chest 999;" + eachMonth(99));
+        OwedBell full = Check.told("owe 9999;rate 0;chest 999;" + Check.harvests(99));
         nights(full, 90);
         edge.due("90 NIGHTS", full.told(1), 999 + 90 * 99);
         work(full, "night;");

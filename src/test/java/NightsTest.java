@@ -51,7 +51,7 @@ public final class NightsTest {
         check.none("no VILLAGE", () -> bell.village(2, 0));
         check.none("no VILLAGE -1, ahead of others", () -> bell.village(-1, 7));
         check.bad("another what", () -> bell.village(0, 2));
-        OwedBell rich = Check.told("village 20;chest 999;" + harvests(99));
+        OwedBell rich = Check.told("village 20;chest 999;" + Check.harvests(99));
         for (int i = 0; i < 10; i++) {
             Check.work(rich, "again 10 [night;];");
         }
@@ -60,14 +60,6 @@ public final class NightsTest {
         check.due("CHEST", rich.told(1), 9990);
         check.due("alms are done", Check.work(rich, "alms 0;"), 1);
         check.due("9,999 at most by alms", rich.told(1), 9999);
-    }
-
-    private static String harvests(int crowns) {
-        StringBuilder text = new StringBuilder();
-        for (int i = 0; i < 12; i++) {
-            text.append("harvest ").append(i).append(' ').append(crowns).append(';');
-        }
-        return text.toString();
     }
 
     private static void receipts() {
