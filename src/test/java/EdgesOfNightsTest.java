@@ -472,13 +472,15 @@ public final class EdgesOfNightsTest {
         for (int n : new int[] {1, 2, 998, 999}) {
             OwedBell bell = Check.told("owe 1999;rate 0;", "(asks-999)/2");
             edge.due("done", work(bell, "receipt " + n + ";"), 1);
+            isRefused(bell, "receipt 1;");
             for (int left = 7; left >= 1; left--) {
                 edge.due("N", bell.told(6), n);
                 edge.due("NIGHTS still", bell.told(7), left);
                 edge.due("none came down", bell.told(12), 0);
                 edge.due("asks less", bell.strokes(), (1000 - n) / 2);
-                isRefused(bell, "receipt 1;");
+                edge.due("another is REFUSED", work(bell, "receipt 1;") * 10 + bell.told(11), 1);
                 edge.due("the same", bell.told(6), n);
+                bell.undo();
                 work(bell, "night;");
             }
             edge.due("no NIGHTS still", bell.told(7), 0);

@@ -119,7 +119,7 @@ public final class OracleTest {
             int s = random.nextInt(i == 0 ? 50 : 300);
             int[] best = new int[9];
             best[8] = -1;
-            tryBeds(bell, s, 0, 0, 0, new int[9], best);
+            tryBeds(light(bell), noise(bell, s), 0, 0, 0, new int[9], best);
             check.due(scene.name() + "beds " + s, bell.beds(s), best[8]);
             for (int m = 0; m < bell.many(2); m++) {
                 check.due(scene.name() + "bed " + m + " " + s, bell.bed(m, s), best[m]);
@@ -127,19 +127,44 @@ public final class OracleTest {
         }
     }
 
-    private static void tryBeds(OwedBell bell, int s, int monk, int taken, int sleep, int[] cells, int[] best) {
-        if (monk == bell.many(2)) {
+    // what is told once is kept: an object is asked 512 times at most
+
+    private static int[] light(OwedBell bell) {
+        int[] light = new int[bell.many(2)];
+        for (int m = 0; m < light.length; m++) {
+            light[m] = bell.monk(m, 0);
+        }
+        return light;
+    }
+
+    private static int[] noise(OwedBell bell, int s) {
+        int[] noise = new int[bell.many(1)];
+        for (int c = 0; c < noise.length; c++) {
+            noise[c] = bell.noise(c, s);
+        }
+        return noise;
+    }
+
+    private static int[] claims(OwedBell bell) {
+        int[] claims = new int[bell.many(3)];
+        for (int h = 0; h < claims.length; h++) {
+            claims[h] = bell.heir(h);
+        }
+        return claims;
+    }
+
+    private static void tryBeds(int[] light, int[] noise, int monk, int taken, int sleep, int[] cells, int[] best) {
+        if (monk == light.length) {
             if (sleep > best[8]) {
                 System.arraycopy(cells, 0, best, 0, 8);
                 best[8] = sleep;
             }
             return;
         }
-        for (int c = 0; c < bell.many(1); c++) {
+        for (int c = 0; c < noise.length; c++) {
             if ((taken >> c & 1) == 0) {
                 cells[monk] = c;
-                int sleeps = bell.noise(c, s) <= bell.monk(monk, 0) ? 1 : 0;
-                tryBeds(bell, s, monk + 1, taken | 1 << c, sleep + sleeps, cells, best);
+                tryBeds(light, noise, monk + 1, taken | 1 << c, sleep + (noise[c] <= light[monk] ? 1 : 0), cells, best);
             }
         }
     }
@@ -164,17 +189,19 @@ public final class OracleTest {
         }
     }
 
-    private static int has(OwedBell bell, int[] bids, int i) {
+    private static int has(int owed, int[] claims, int[] bids, int i) {
         int all = 0;
         for (int bid : bids) {
             all += 10 * bid;
         }
-        return all > bell.told(0) ? 0 : Math.min(10 * bids[i], bell.heir(i));
+        return all > owed ? 0 : Math.min(10 * bids[i], claims[i]);
     }
 
     private static void heirs(Scene scene, Random random) {
         OwedBell bell = scene.make();
         int many = bell.many(3);
+        int owed = bell.told(0);
+        int[] claims = claims(bell);
         int k = random.nextInt(many == 4 ? 5 : 10);
         int rests = 0;
         int digits = -1;
@@ -190,13 +217,13 @@ public final class OracleTest {
             boolean stays = true;
             int all = 0;
             for (int i = 0; i < many; i++) {
-                int has = has(bell, bids, i);
+                int has = has(owed, claims, bids, i);
                 int own = bids[i];
                 all += has;
                 told = 10 * told + own;
                 for (int other = 0; other <= k; other++) {
                     bids[i] = other;
-                    stays = stays && has(bell, bids, i) <= has;
+                    stays = stays && has(owed, claims, bids, i) <= has;
                 }
                 bids[i] = own;
             }
