@@ -777,8 +777,9 @@ public final class OwedBell {
 
     private static long choices(int n, int k) {
         long ways = 1;
-        for (int i = 0; i < k; i++) {
-            ways = ways * (n - i) / (i + 1);
+        // the divisor is 1 at least, and leaves nothing each time
+        for (int i = 1; i <= k; i++) {
+            ways = ways * (n + 1 - i) / i;
         }
         return ways;
     }
